@@ -635,7 +635,8 @@ public final class CubicForms {
             long disc = f.disc();
             for (int p = 2; p <= MAX_PRIME && (long) p * p <= disc; p++) {
                 // The discriminant is the cheapest test, so it comes before the primes.
-                if (disc % ((long) p * p) == 0 && isPrime(p) && growAt(f, p)) {
+                if (disc % ((long) p * p) == 0 && isPrime(p) && candidate.becomeOverring(f, p)) {
+                    f.copyFrom(candidate);
                     return true;
                 }
             }
