@@ -10,16 +10,7 @@ import java.util.regex.Matcher;
 import java.util.regex.Pattern;
 
 /** What the document says around the promises: "What it is", "Description" and "Not promised", sentence by sentence. */
-public final class DescriptionTest {
-    private static final int NO_SUCH_FORM = Calls.NO_SUCH_FORM;
-    private static final int NO_SUCH_REGISTER = Calls.NO_SUCH_REGISTER;
-    private static final int BAD_VALUE = Calls.BAD_VALUE;
-    private static final int FULL = Calls.FULL;
-    private static final int OVERFLOW = Calls.OVERFLOW;
-    private static final int NOT_POSITIVE = Calls.NOT_POSITIVE;
-    private static final int REDUCIBLE = Calls.REDUCIBLE;
-    private static final int NONE = Calls.NONE;
-    private static final long NO_VALUE = Calls.NO_VALUE;
+public final class DescriptionTest implements Codes {
     private static final Pattern CALL = Pattern.compile("(\\w+)\\(([-0-9, ]*)\\) = (-?\\d+)");
 
     /** Each method once, with arguments that it takes where form 0 is (1, 1, -2, -1). */
@@ -118,10 +109,10 @@ public final class DescriptionTest {
             // A term at a time, and then all of them.
             Calls.with(0, 1, 1, 0, 1, 0, 1, 0, 0, 1, 0, 1, 1, 0, 0, 1, 1, 1, 1, 1).tells(1, "discriminant", 0).tells(-4, "discriminant", 1)
                     .tells(-4, "discriminant", 2).tells(-27, "discriminant", 3).tells(1 - 4 - 4 - 27 + 18, "discriminant", 4);
-            eachSmallForm(3, f -> Calls.with(f).does(discriminantOf(f), "discriminant", 0).does(discriminantOf(f), "traceDeterminant", 0));
+            Cubics.eachRow(3, f -> Calls.with(f).does(Cubics.discriminant(f), "discriminant", 0).does(Cubics.discriminant(f), "traceDeterminant", 0));
         });
         doc.says("The Hessian of f is (P, Q, R) with P = b^2 - 3 a c, Q = b c - 9 a d, R = c^2 - 3 b d.",
-                () -> eachSmallForm(2, f -> Calls.with(f).does(f[1] * f[1] - 3 * f[0] * f[2], "hessian", 0, 0)
+                () -> Cubics.eachRow(2, f -> Calls.with(f).does(f[1] * f[1] - 3 * f[0] * f[2], "hessian", 0, 0)
                 .does(f[1] * f[2] - 9 * f[0] * f[3], "hessian", 0, 1).does(f[2] * f[2] - 3 * f[1] * f[3], "hessian", 0, 2)));
         doc.says("The Hessian is called reduced if |Q| is at most P, and P is at most R.", () -> {
             // Q = P and Q = -P; P = R; all three equal: the forms on both sides of the edge are candidates.
@@ -136,8 +127,8 @@ public final class DescriptionTest {
             canonicalIs(new int[] {-4, -7, 6, 4}, -4, -6, 7, 4);
             canonicalIs(new int[] {-2, -4, 3, 2}, -2, -3, 4, 2);
             canonicalIs(new int[] {-1, -5, -1, 2}, -1, -2, 6, -1);
-            eachSmallForm(3, f -> {
-                if (discriminantOf(f) > 0) {
+            Cubics.eachRow(3, f -> {
+                if (Cubics.discriminant(f) > 0) {
                     Calls x = Calls.with(f).does(1, "canonical", 0);
                     long p = x.ask("hessian", 1, 0);
                     Check.holds("the reduced Hessian of the canonical form of " + Arrays.toString(f),
@@ -147,41 +138,8 @@ public final class DescriptionTest {
         });
     }
 
-    private interface FormCheck {
-        void check(int[] form);
-    }
-
-    private static void eachSmallForm(int bound, FormCheck checks) {
-        int side = 2 * bound + 1;
-        for (int i = 0; i < side * side * side * side; i++) {
-            checks.check(new int[] {i % side - bound, i / side % side - bound, i / (side * side) % side - bound,
-                i / (side * side * side) - bound});
-        }
-    }
-
-    private static long discriminantOf(int[] f) {
-        long a = f[0];
-        long b = f[1];
-        long c = f[2];
-        long d = f[3];
-        return b * b * c * c - 4 * a * c * c * c - 4 * b * b * b * d - 27 * a * a * d * d + 18 * a * b * c * d;
-    }
-
     private static void canonicalIs(int[] form, int... canonical) {
         Calls.with(form).does(1, "canonical", 0).holdsForm(1, canonical);
-    }
-
-    /** f(p x + q y, r x + s y), by values: a cubic form g has 2 b = g(1, 1) - g(1, -1) - 2 d, and 2 c likewise. */
-    private static int[] substituted(int[] f, int p, int q, int r, int s) {
-        int a = valueAt(f, p, r);
-        int d = valueAt(f, q, s);
-        int sum = valueAt(f, p + q, r + s);
-        int difference = valueAt(f, p - q, r - s);
-        return new int[] {a, (sum - difference) / 2 - d, (sum + difference) / 2 - a, d};
-    }
-
-    private static int valueAt(int[] f, int x, int y) {
-        return f[0] * x * x * x + f[1] * x * x * y + f[2] * x * y * y + f[3] * y * y * y;
     }
 
     private static void substitutions(Sentences doc) {
@@ -189,31 +147,19 @@ public final class DescriptionTest {
                 + " form f(p x + q y, r x + s y).", () -> {
             int[][] sources = {{1, 2, 3, 4}, {-3, 1, 0, 2}, {0, 1, -1, 5}};
             for (int[] f : sources) {
-                for (int m = 0; m < 625; m++) {
-                    int p = m / 125 - 2;
-                    int q = m / 25 % 5 - 2;
-                    int r = m / 5 % 5 - 2;
-                    int s = m % 5 - 2;
-                    if (Math.abs(p * s - q * r) == 1) {
-                        Calls.with(f).does(1, "substitute", 0, p, q, r, s).holdsForm(1, substituted(f, p, q, r, s));
+                Cubics.eachRow(2, m -> {
+                    if (Cubics.isSubstitution(m)) {
+                        Calls.with(f).does(1, "substitute", 0, m[0], m[1], m[2], m[3]).holdsForm(1, Cubics.substituted(f, m));
                     } else {
-                        Calls.with(f).tells(BAD_VALUE, "substitute", 0, p, q, r, s);
+                        Calls.with(f).tells(BAD_VALUE, "substitute", 0, m[0], m[1], m[2], m[3]);
                     }
-                }
+                });
             }
         });
         doc.says("Two forms are equivalent if a substitution takes one to the other.", () -> {
             // By each substitution with small entries, of both determinants; and to the negative form.
-            for (int m = 0; m < 81; m++) {
-                int p = m / 27 - 1;
-                int q = m / 9 % 3 - 1;
-                int r = m / 3 % 3 - 1;
-                int s = m % 3 - 1;
-                if (Math.abs(p * s - q * r) == 1) {
-                    Calls.with(-1, -1, 3, 1).does(1, "substitute", 0, p, q, r, s).tells(1, "areEquivalent", 0, 1)
-                            .tells(1, "areEquivalent", 1, 0);
-                }
-            }
+            Cubics.eachSubstitution(1, m -> Calls.with(-1, -1, 3, 1).does(1, "substitute", 0, m[0], m[1], m[2], m[3])
+                    .tells(1, "areEquivalent", 0, 1).tells(1, "areEquivalent", 1, 0));
             Calls.with(-1, -1, 3, 1, 1, 1, -3, -1, -1, -1, 4, 1).tells(1, "areEquivalent", 0, 1).tells(0, "areEquivalent", 0, 2);
         });
     }
@@ -222,8 +168,8 @@ public final class DescriptionTest {
         doc.says("Canonical forms. Let f have a positive discriminant.", () -> Calls.with(0, 1, -1, 0, 1, 2, 1, 0, 0, 1, 1, 1)
                 .does(3, "canonical", 0).tells(NOT_POSITIVE, "canonical", 1).tells(NOT_POSITIVE, "canonical", 2));
         doc.says("Then finitely many forms that are equivalent to f have a reduced Hessian, and there is at least one.",
-                () -> eachSmallForm(2, f -> {
-                    if (discriminantOf(f) > 0) {
+                () -> Cubics.eachRow(2, f -> {
+                    if (Cubics.discriminant(f) > 0) {
                         Calls.with(f).does(1, "canonical", 0).does(1, "areEquivalent", 0, 1);
                     }
                 }));
@@ -231,12 +177,16 @@ public final class DescriptionTest {
                 DescriptionTest::reducedFormsReachEachOther);
         doc.says("The canonical form of f is the lexicographically least one of them (compare a, then b, then c, then d, as signed"
                 + " integers).", () -> {
-            // a decides, then b twice, c, d.
+            // a decides, then b twice, c, d; and c in the other three of its signs.
             canonicalIs(new int[] {-1, -6, 3, 2}, -2, -3, 6, 1);
             canonicalIs(new int[] {-2, 3, 6, -1}, -2, -3, 6, 1);
             canonicalIs(new int[] {-3, -4, 5, 3}, -3, -5, 4, 3);
             canonicalIs(new int[] {0, -1, 1, 1}, 0, -1, -1, 1);
             canonicalIs(new int[] {-1, 0, 4, 1}, -1, 0, 4, -1);
+            for (int sign = -1; sign <= 1; sign += 2) {
+                canonicalIs(new int[] {0, 2 * sign, 1, -5 * sign}, 0, -2, -1, 5);
+                canonicalIs(new int[] {0, 2 * sign, -1, -5 * sign}, 0, -2, -1, 5);
+            }
             // Less means less as a signed integer, not in its absolute value.
             canonicalIs(new int[] {1, 0, -4, 1}, -1, 0, 4, -1);
             canonicalIs(new int[] {0, 1, 0, -1}, 0, -1, 0, 1);
@@ -244,8 +194,8 @@ public final class DescriptionTest {
         });
         doc.says("So two forms with positive discriminants are equivalent if and only if they have the same canonical form.", () -> {
             List<int[]> some = new ArrayList<>();
-            eachSmallForm(2, f -> {
-                if (discriminantOf(f) > 0 && (f[0] + 5 * f[1] + 3 * f[2] + 7 * f[3]) % 4 == 0) {
+            Cubics.eachRow(2, f -> {
+                if (Cubics.discriminant(f) > 0 && (f[0] + 5 * f[1] + 3 * f[2] + 7 * f[3]) % 4 == 0) {
                     some.add(f);
                 }
             });
@@ -271,11 +221,11 @@ public final class DescriptionTest {
         doc.says("Otherwise it is irreducible.", () -> {
             // All forms have f(0, 0) = 0; that is not counted.
             Calls.with(1, 0, 0, -2).tells(0, "value", 0, 0, 0).tells(0, "isReducible", 0);
-            eachSmallForm(3, f -> {
+            Cubics.eachRow(3, f -> {
                 boolean zero = false;
                 for (int x = -3; x <= 3; x++) {
                     for (int y = -3; y <= 3; y++) {
-                        zero = zero || (x != 0 || y != 0) && valueAt(f, x, y) == 0;
+                        zero = zero || (x != 0 || y != 0) && Cubics.valueAt(f, x, y) == 0;
                     }
                 }
                 Calls.with(f).does(zero ? 1 : 0, "isReducible", 0);
@@ -301,18 +251,12 @@ public final class DescriptionTest {
     private static Set<String> reducedFormsFrom(int[] f, int[] canonical) {
         canonicalIs(f, canonical);
         Set<String> found = new TreeSet<>();
-        for (int m = 0; m < 81; m++) {
-            int p = m / 27 - 1;
-            int q = m / 9 % 3 - 1;
-            int r = m / 3 % 3 - 1;
-            int s = m % 3 - 1;
-            int[] g = substituted(f, p, q, r, s);
-            int first = g[1] * g[1] - 3 * g[0] * g[2];
-            boolean reduced = Math.abs(g[1] * g[2] - 9 * g[0] * g[3]) <= first && first <= g[2] * g[2] - 3 * g[1] * g[3];
-            if (Math.abs(p * s - q * r) == 1 && reduced) {
+        Cubics.eachSubstitution(1, m -> {
+            int[] g = Cubics.substituted(f, m);
+            if (Cubics.hasReducedHessian(g)) {
                 found.add(Arrays.toString(g));
             }
-        }
+        });
         return found;
     }
 
@@ -320,7 +264,7 @@ public final class DescriptionTest {
         doc.says("The ring of a form. The ring has the elements u + v w + t z with integers u, v, t, where w and z are two fixed symbols,"
                 + " and the multiplication is determined by w * w = -a c + b w - a z, z * z = -b d + d w - c z and"
                 + " w * z = z * w = -a d, together with the usual laws of commutative rings.", () -> {
-            eachSmallForm(2, f -> {
+            Cubics.eachRow(2, f -> {
                 Calls x = withElements(f, 0, 1, 0, 0, 0, 1);
                 x.does(1, "multiply", 0, 0, 0, 2).holdsElement(2, -f[0] * f[2], f[1], -f[0]);
                 x.does(1, "multiply", 0, 1, 1, 2).holdsElement(2, -f[1] * f[3], f[3], -f[2]);
@@ -432,7 +376,7 @@ public final class DescriptionTest {
                 // Has the form (p^2, p, 1, 1) at the point (1, t), or at (0, 1).
                 int[] atPoint = {p * p, p, 1, 1};
                 for (int t = 0; t < p; t++) {
-                    Calls.with(substituted(atPoint, 1, 0, -t, 1)).does(1, "overring", 0, p).holdsForm(1, 1, 1, 1, p);
+                    Calls.with(Cubics.substituted(atPoint, 1, 0, -t, 1)).does(1, "overring", 0, p).holdsForm(1, 1, 1, 1, p);
                 }
                 Calls.with(1, 1, p, p * p).does(1, "overring", 0, p).holdsForm(1, 1, 1, 1, p);
             }
@@ -469,15 +413,15 @@ public final class DescriptionTest {
         });
         doc.says("Otherwise the ring is not maximal at p if and only if there is a point for which p^2 divides a' and p divides b'; the"
                 + " first such point decides, and the overring at p belongs to the form (a' / p^2, b' / p, c', d' * p).", () -> {
-            eachSmallForm(3, f -> overringByPoints(f, 2));
-            eachSmallForm(3, f -> overringByPoints(f, 3));
-            eachSmallForm(2, f -> overringByPoints(new int[] {4 * f[0], 2 * f[1], f[2], f[3]}, 2));
-            eachSmallForm(2, f -> overringByPoints(new int[] {f[0], f[1], 3 * f[2], 9 * f[3]}, 3));
-            eachSmallForm(2, f -> overringByPoints(new int[] {25 * f[0], 5 * f[1], f[2], f[3]}, 5));
+            Cubics.eachRow(3, f -> overringByPoints(f, 2));
+            Cubics.eachRow(3, f -> overringByPoints(f, 3));
+            Cubics.eachRow(2, f -> overringByPoints(new int[] {4 * f[0], 2 * f[1], f[2], f[3]}, 2));
+            Cubics.eachRow(2, f -> overringByPoints(new int[] {f[0], f[1], 3 * f[2], 9 * f[3]}, 3));
+            Cubics.eachRow(2, f -> overringByPoints(new int[] {25 * f[0], 5 * f[1], f[2], f[3]}, 5));
         });
         doc.says("If the ring is not maximal at p, then p^2 divides the discriminant.", () -> {
             for (int p : new int[] {2, 3, 5, 7}) {
-                eachSmallForm(2, f -> {
+                Cubics.eachRow(2, f -> {
                     int[] g = {p * p * f[0], p * f[1], f[2], f[3]};
                     Calls x = Calls.with(g).does(0, "isMaximalAt", 0, p);
                     Check.same("the rest of the discriminant", x.ask("discriminant", 0) % (p * p), 0);
@@ -495,7 +439,7 @@ public final class DescriptionTest {
             return;
         }
         for (int t = 0; t <= p; t++) {
-            int[] g = t < p ? substituted(f, 1, 0, t, 1) : substituted(f, 0, 1, 1, 0);
+            int[] g = t < p ? Cubics.substituted(f, 1, 0, t, 1) : Cubics.substituted(f, 0, 1, 1, 0);
             if (g[0] % (p * p) == 0 && g[1] % p == 0) {
                 x.does(0, "isMaximalAt", 0, p).does(1, "overring", 0, p).holdsForm(1, g[0] / (p * p), g[1] / p, g[2], g[3] * p);
                 return;
@@ -712,6 +656,6 @@ public final class DescriptionTest {
             }
         }
         Check.same("the answers of the first object", answers[0], 200 * (49 + 27));
-        Check.same("the answers of the second object", answers[1], 200 * (discriminantOf(new int[] {2, 1, -2, -1}) + 27));
+        Check.same("the answers of the second object", answers[1], 200 * (Cubics.discriminant(new int[] {2, 1, -2, -1}) + 27));
     }
 }

@@ -1,10 +1,7 @@
-/** Promises 10 to 12, sentence by sentence: canonical forms, equivalence and automorphisms. */
-public final class EquivalenceTest {
-    private static final int NO_SUCH_FORM = Calls.NO_SUCH_FORM;
-    private static final int FULL = Calls.FULL;
-    private static final int OVERFLOW = Calls.OVERFLOW;
-    private static final int NOT_POSITIVE = Calls.NOT_POSITIVE;
+import java.util.Arrays;
 
+/** Promises 10 to 12, sentence by sentence: canonical forms, equivalence and automorphisms. */
+public final class EquivalenceTest implements Codes {
     /** Its canonical form is (0, -1, -1, 22349): too large to be stored. */
     private static final int[] LARGE = {0, 1, 299, 1};
 
@@ -160,32 +157,9 @@ public final class EquivalenceTest {
         int[][] forms = {{1, 1, -2, -1}, {1, 0, -3, 1}, {1, -1, -4, 1}, {0, 1, -1, 0}, {0, 1, 1, -1}, {1, 0, -2, 0}, {2, 3, -3, -2},
             {-2, -3, 6, 1}, {-2, 0, 6, -1}, {-2, -6, 3, 4}, {0, 2, 2, 0}, {1, 3, 2, 0}, {1, 4, 3, -1}};
         for (int[] f : forms) {
-            int count = 0;
-            for (int m = 0; m < 9 * 9 * 9 * 9; m++) {
-                int p = m / 729 - 4;
-                int q = m / 81 % 9 - 4;
-                int r = m / 9 % 9 - 4;
-                int s = m % 9 - 4;
-                if (Math.abs(p * s - q * r) == 1 && isKept(f, p, q, r, s)) {
-                    count++;
-                }
-            }
-            Calls.with(f).tells(count, "automorphismCount", 0);
+            int[] count = {0};
+            Cubics.eachSubstitution(4, m -> count[0] += Arrays.equals(Cubics.substituted(f, m), f) ? 1 : 0);
+            Calls.with(f).tells(count[0], "automorphismCount", 0);
         }
-    }
-
-    /** Four values fix a cubic form. */
-    private static boolean isKept(int[] f, int p, int q, int r, int s) {
-        int[][] points = {{1, 0}, {0, 1}, {1, 1}, {1, -1}};
-        for (int[] at : points) {
-            if (valueAt(f, p * at[0] + q * at[1], r * at[0] + s * at[1]) != valueAt(f, at[0], at[1])) {
-                return false;
-            }
-        }
-        return true;
-    }
-
-    private static int valueAt(int[] f, int x, int y) {
-        return f[0] * x * x * x + f[1] * x * x * y + f[2] * x * y * y + f[3] * y * y * y;
     }
 }

@@ -1,8 +1,5 @@
 /** Promises 24 to 26, sentence by sentence: the tabulated forms and the fields. */
-public final class FieldsTest {
-    private static final int BAD_VALUE = Calls.BAD_VALUE;
-    private static final int NONE = Calls.NONE;
-
+public final class FieldsTest implements Codes {
     /** The tabulated forms to 1000 in the order of their discriminants. */
     private static final int[][] TABULATED = {{-1, -2, 1, 1}, {-1, -3, 0, 1}, {-1, -1, 3, 1}, {-1, -4, -1, 1}, {-1, 0, 4, -1},
         {-1, -2, 3, 1}, {-1, -2, 3, 2}, {-1, -1, 4, 1}, {-1, -5, -2, 1}, {-1, -1, 5, -1}, {-1, -2, 4, 1}, {-1, 0, 5, -1},

@@ -1,11 +1,5 @@
 /** Promises 1 to 9, sentence by sentence: a new object, and the forms. */
-public final class FormsTest {
-    private static final int NO_SUCH_FORM = Calls.NO_SUCH_FORM;
-    private static final int BAD_VALUE = Calls.BAD_VALUE;
-    private static final int FULL = Calls.FULL;
-    private static final int OVERFLOW = Calls.OVERFLOW;
-    private static final long NO_VALUE = Calls.NO_VALUE;
-
+public final class FormsTest implements Codes {
     public static void main(String[] args) {
         Sentences doc = new Sentences();
         newObject(doc);
@@ -286,6 +280,12 @@ public final class FormsTest {
                 Calls.with(m, m + n, m + n, n).tells(1, "isReducible", 0);
                 Calls.with(17 * m, 17 * n, m, n).tells(1, "isReducible", 0);
                 Calls.with(m, n, 17 * m, 17 * n).tells(1, "isReducible", 0);
+            }
+        }
+        // Here -n / m is neither made of small divisors of a and d nor of a and d themselves.
+        for (int m = 1; m <= 75; m += 2) {
+            for (int n = -60; n <= 60; n++) {
+                Calls.with(2 * m, m + 2 * n, 3 * m + n, 3 * n).tells(1, "isReducible", 0);
             }
         }
     }

@@ -1,13 +1,5 @@
 /** Promises 20 to 23, sentence by sentence: splitting, maximality and overrings. */
-public final class PrimesTest {
-    private static final int NO_SUCH_FORM = Calls.NO_SUCH_FORM;
-    private static final int BAD_VALUE = Calls.BAD_VALUE;
-    private static final int FULL = Calls.FULL;
-    private static final int OVERFLOW = Calls.OVERFLOW;
-    private static final int NOT_POSITIVE = Calls.NOT_POSITIVE;
-    private static final int REDUCIBLE = Calls.REDUCIBLE;
-    private static final int NONE = Calls.NONE;
-
+public final class PrimesTest implements Codes {
     public static void main(String[] args) {
         Sentences doc = new Sentences();
         splitting(doc);
@@ -71,19 +63,11 @@ public final class PrimesTest {
                 for (int t = 0; t < p; t++) {
                     roots += (f[0] + f[1] * t + f[2] * t * t + f[3] * t * t * t) % p == 0 ? 1 : 0;
                 }
-                boolean multiple = discriminantOf(f) % p == 0;
+                boolean multiple = Cubics.discriminant(f) % p == 0;
                 int code = i == 0 ? 0 : multiple ? (roots > 1 ? 121 : 13) : roots == 0 ? 3 : roots == 1 ? 21 : 111;
                 Calls.with(f).tells(code, "splitting", 0, p);
             }
         }
-    }
-
-    private static long discriminantOf(int[] f) {
-        long a = f[0];
-        long b = f[1];
-        long c = f[2];
-        long d = f[3];
-        return b * b * c * c - 4 * a * c * c * c - 4 * b * b * b * d - 27 * a * a * d * d + 18 * a * b * c * d;
     }
 
     private static void noSuchFormComesFirst(String name) {

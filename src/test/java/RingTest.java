@@ -1,11 +1,5 @@
 /** Promises 13 to 19, sentence by sentence: the registers, and the ring of a form. */
-public final class RingTest {
-    private static final int NO_SUCH_FORM = Calls.NO_SUCH_FORM;
-    private static final int NO_SUCH_REGISTER = Calls.NO_SUCH_REGISTER;
-    private static final int BAD_VALUE = Calls.BAD_VALUE;
-    private static final int OVERFLOW = Calls.OVERFLOW;
-    private static final long NO_VALUE = Calls.NO_VALUE;
-
+public final class RingTest implements Codes {
     public static void main(String[] args) {
         Sentences doc = new Sentences();
         setElement(doc);

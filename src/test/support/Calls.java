@@ -6,18 +6,9 @@ import java.util.List;
 import java.util.Map;
 
 /** An object of CubicForms and the calls that were made on it, by name, so that they can be made again. */
-final class Calls {
+final class Calls implements Codes {
     /** The document promises no more calls on one object. */
     static final int LAST = 512;
-    static final int NO_SUCH_FORM = -10001;
-    static final int NO_SUCH_REGISTER = -10002;
-    static final int BAD_VALUE = -10003;
-    static final int FULL = -10004;
-    static final int OVERFLOW = -10005;
-    static final int NOT_POSITIVE = -10006;
-    static final int REDUCIBLE = -10007;
-    static final int NONE = -10008;
-    static final long NO_VALUE = Long.MIN_VALUE;
 
     private static final int ROOM = 60;
     private static final int REGISTERS = 6;

@@ -2,7 +2,7 @@ import java.util.Arrays;
 import java.util.function.Supplier;
 
 /** What the lists of arguments say alike of many methods. */
-final class Edges {
+final class Edges implements Codes {
     private static final int MIN = Integer.MIN_VALUE;
     private static final int MAX = Integer.MAX_VALUE;
     /** Its ring is maximal, its canonical form is small, and it can be stored often. */
@@ -60,16 +60,16 @@ final class Edges {
         for (int number = -1100; number <= 1100; number++) {
             if (isPrime(number)) {
                 primes++;
-                taken(start.get(), Calls.BAD_VALUE, name, 0, number);
+                taken(start.get(), BAD_VALUE, name, 0, number);
             } else {
-                start.get().tells(Calls.BAD_VALUE, name, 0, number);
+                start.get().tells(BAD_VALUE, name, 0, number);
             }
         }
         Check.same("the number of primes", primes, 168);
         // Primes too, but larger ones; then squares and products of the largest; then what wraps around to 2.
         int[] others = {1009, 1013, 65537, MAX, 997 * 997, 991 * 997, 2 - 65536, 2 + 65536, 2 + 256 * 256 * 256, MIN, MIN + 2};
         for (int number : others) {
-            start.get().tells(Calls.BAD_VALUE, name, 0, number);
+            start.get().tells(BAD_VALUE, name, 0, number);
         }
     }
 
