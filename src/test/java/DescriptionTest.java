@@ -51,6 +51,18 @@ public final class DescriptionTest implements Codes {
 
     private static void whatItIs(Sentences doc) {
         doc.section("What it is");
+        doc.says("A library for binary cubic forms with integer coefficients and the cubic rings that correspond to them (the"
+                + " Delone-Faddeev correspondence).", DescriptionTest::ringsCorrespondToForms);
+        doc.says("It computes discriminants and Hessians, canonical forms and equivalence for positive discriminants, multiplication in"
+                + " the ring of a form, splitting of primes, maximality of the ring at a prime, maximal overrings, and it counts totally"
+                + " real cubic fields of small discriminant.", () -> {
+            // All of it on one object; number 0 has the index 8 in the ring of the field with the discriminant 49.
+            Calls x = Calls.with(8, 4, -4, -1).tells(3136, "discriminant", 0).tells(112, "hessian", 0, 0);
+            x.does(1, "canonical", 0).holdsForm(1, -1, -1, 9, 1).tells(1, "areEquivalent", 0, 1);
+            x.does(1, "setElement", 0, 1, 1, 1).does(1, "multiply", 0, 0, 0, 0).holdsElement(0, 53, 5, -2);
+            x.tells(13, "splitting", 0, 2).tells(0, "isMaximalAt", 0, 2).tells(1, "isMaximalAt", 0, 3);
+            x.does(2, "maximalOverring", 0).holdsForm(2, -1, -2, 1, 1).tells(49, "discriminant", 2).tells(1, "countFields", 49);
+        });
         doc.says("An object is used for at most 512 calls after it has been made; what later calls answer is free.", () -> {
             for (String call : EACH_METHOD) {
                 Calls x = Calls.with(1, 1, -2, -1).does(1, "setElement", 0, 1, 2, -1);
@@ -69,7 +81,23 @@ public final class DescriptionTest implements Codes {
                         place == 60 ? new int[0] : new int[] {place, x.count() % 300, 0, 1});
             }
         });
-        doc.leaveRest();
+    }
+
+    /** A ring has the discriminant of its form, and the value of the form at (v, t) is the index of v w + t z. */
+    private static void ringsCorrespondToForms() {
+        Cubics.eachRow(2, f -> {
+            Calls x = Calls.with(f);
+            x.does(Cubics.discriminant(f), "traceDeterminant", 0);
+            for (int[] e : new int[][] {{1, 0}, {0, 1}, {1, 1}, {2, -1}, {-3, 5}}) {
+                x.ask("setElement", 0, 7, e[0], e[1]);
+                x.does(Math.abs(Cubics.valueAt(f, e[0], e[1])), "elementIndex", 0, 0);
+            }
+            // The form of an equivalent ring differs; how primes split and whether it is maximal there do not.
+            x.does(1, "substitute", 0, 2, 1, 1, 1);
+            for (int p : new int[] {2, 3, 5}) {
+                x.does(x.ask("splitting", 0, p), "splitting", 1, p).does(x.ask("isMaximalAt", 0, p), "isMaximalAt", 1, p);
+            }
+        });
     }
 
     private static void forms(Sentences doc) {

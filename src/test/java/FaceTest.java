@@ -1,91 +1,103 @@
 import java.io.IOException;
-import java.lang.reflect.Constructor;
 import java.lang.reflect.Field;
 import java.lang.reflect.Method;
 import java.lang.reflect.Modifier;
 import java.nio.file.Files;
 import java.nio.file.Path;
 import java.util.Arrays;
+import java.util.List;
 import java.util.Set;
 import java.util.TreeSet;
 import java.util.regex.Matcher;
 import java.util.regex.Pattern;
 
-/** The face of the class as the document has it, and those rules of LANGUAGE.md that can be seen from outside. */
+/** "The public face" of the document, line by line, and those rules of LANGUAGE.md that can be seen from outside. */
 public final class FaceTest {
-    private static final String[] METHODS = {
-        "int addForm(int, int, int, int)", "int clearForms()", "int coefficient(int, int)",
-        "long discriminant(int)", "long hessian(int, int)", "long value(int, int, int)",
-        "int substitute(int, int, int, int, int)", "int isReducible(int)", "int canonical(int)",
-        "int areEquivalent(int, int)", "int automorphismCount(int)", "int setElement(int, int, int, int)",
-        "int element(int, int)", "int multiply(int, int, int, int)", "long trace(int, int)",
-        "long norm(int, int)", "long traceDeterminant(int)", "long elementIndex(int, int)",
-        "int splitting(int, int)", "int isMaximalAt(int, int)", "int overring(int, int)",
-        "int maximalOverring(int)", "int countForms(int)", "int countFields(int)", "int fieldDiscriminant(int)"};
-    private static final String[] FIELDS = {
-        "int NO_SUCH_FORM", "int NO_SUCH_REGISTER", "int BAD_VALUE", "int FULL", "int OVERFLOW",
-        "int NOT_POSITIVE", "int REDUCIBLE", "int NONE", "long NO_VALUE"};
+    private static final Path SOURCE = Path.of("src/main/java/CubicForms.java");
+    private static final Pattern CONSTANT = Pattern.compile("public static final (int|long) (\\w+) = (.*);");
+    private static final Pattern METHOD = Pattern.compile("public (int|long) (\\w+)\\((.*)\\);");
     private static final String[] BANNED = {
         "\\bthrow\\b", "\\btry\\b", "\\bcatch\\b", "\\bsynchronized\\b", "\\bassert\\b", "\\bimport\\b", "\\bpackage\\b",
         "->", "::", "\\w+Exact\\b", "\\bThread\\b", "\\bSystem\\.(?!arraycopy)"};
-    private static int wrong = 0;
 
     public static void main(String[] args) throws IOException {
-        checkMembers();
+        String source = Files.readString(SOURCE);
+        Sentences doc = new Sentences();
+        publicFace(doc, source);
+        Check.under("LANGUAGE.md");
+        checkNames();
         checkClasses();
-        checkSource();
-        System.out.println(wrong == 0 ? "the face is as due" : wrong + " faults of the face");
-        if (wrong != 0) {
-            System.exit(1);
+        checkWords(source);
+        doc.end();
+    }
+
+    private static void publicFace(Sentences doc, String source) {
+        List<String> lines = doc.all("^    (public .*;)$");
+        doc.section("The public face");
+        doc.says("```java public final class CubicForms {", () -> {
+            Check.same("the modifiers of the class", CubicForms.class.getModifiers(), Modifier.PUBLIC | Modifier.FINAL);
+            Check.holds("the class without a package", CubicForms.class.getPackageName().isEmpty());
+        });
+        for (String line : lines) {
+            doc.says(line, () -> {
+                // The names of the parameters stand in the source alone.
+                Check.holds("the line in the source", source.contains("    " + (CONSTANT.matcher(line).matches() ? line : line.replace(";", " {"))));
+                checkMember(line);
+            });
+        }
+        doc.says("} ```", () -> checkNothingElse(lines.size()));
+    }
+
+    private static void checkMember(String line) {
+        try {
+            Matcher constant = CONSTANT.matcher(line);
+            Matcher method = METHOD.matcher(line);
+            if (constant.matches()) {
+                Field field = CubicForms.class.getDeclaredField(constant.group(2));
+                Check.holds("the type", field.getType().getName().equals(constant.group(1)));
+                Check.same("the modifiers", field.getModifiers(), Modifier.PUBLIC | Modifier.STATIC | Modifier.FINAL);
+                String value = constant.group(3);
+                Check.same("the value", field.getLong(null), value.equals("Long.MIN_VALUE") ? Long.MIN_VALUE : Long.parseLong(value));
+            } else if (method.matches()) {
+                int count = method.group(3).isEmpty() ? 0 : method.group(3).split(", ").length;
+                Class<?>[] types = new Class<?>[count];
+                Arrays.fill(types, int.class);
+                Method found = CubicForms.class.getDeclaredMethod(method.group(2), types);
+                Check.holds("the type of the answer", found.getReturnType().getName().equals(method.group(1)));
+                Check.same("the modifiers", found.getModifiers(), Modifier.PUBLIC);
+            } else {
+                Check.holds("the constructor", line.equals("public CubicForms();"));
+                Check.same("its modifiers", CubicForms.class.getDeclaredConstructor().getModifiers(), Modifier.PUBLIC);
+            }
+        } catch (ReflectiveOperationException e) {
+            Check.fault("the class has no such member: " + e.getMessage());
         }
     }
 
-    private static void fault(String what) {
-        wrong++;
-        System.out.println(what);
-    }
-
-    private static void same(String what, Set<String> got, String[] want) {
-        Set<String> due = new TreeSet<>(Arrays.asList(want));
-        if (!got.equals(due)) {
-            fault(what + ": " + got + ", due is " + due);
+    private static void checkNothingElse(int due) {
+        int count = CubicForms.class.getDeclaredConstructors().length;
+        for (Method method : CubicForms.class.getDeclaredMethods()) {
+            count += Modifier.isPrivate(method.getModifiers()) ? 0 : 1;
         }
+        for (Field field : CubicForms.class.getDeclaredFields()) {
+            count += Modifier.isPrivate(field.getModifiers()) ? 0 : 1;
+        }
+        Check.same("the number of members that are not private", count, due);
+        Check.same("the number of lines", due, 9 + 1 + 25);
     }
 
-    private static void checkMembers() {
-        Set<String> methods = new TreeSet<>();
+    private static void checkNames() {
         Set<String> names = new TreeSet<>();
-        for (Method m : CubicForms.class.getDeclaredMethods()) {
-            if (!Modifier.isPrivate(m.getModifiers())) {
-                String parameters = Arrays.toString(m.getParameterTypes());
-                methods.add(m.getReturnType() + " " + m.getName() + "(" + parameters.substring(1, parameters.length() - 1) + ")");
-                names.add(m.getName());
-                if (m.getModifiers() != Modifier.PUBLIC) {
-                    fault("not simply public: " + m);
-                }
+        for (Method method : CubicForms.class.getDeclaredMethods()) {
+            if (!Modifier.isPrivate(method.getModifiers())) {
+                names.add(method.getName());
             }
         }
-        same("methods", methods, METHODS);
         for (Class<?> c : allClasses()) {
-            for (Method m : c.getDeclaredMethods()) {
-                if (Modifier.isPrivate(m.getModifiers()) && names.contains(m.getName())) {
-                    fault("a private method with the name of a public one: " + m);
-                }
+            for (Method method : c.getDeclaredMethods()) {
+                Check.holds("that no private method has the name of a public one: " + method,
+                        !Modifier.isPrivate(method.getModifiers()) || !names.contains(method.getName()));
             }
-        }
-        Set<String> fields = new TreeSet<>();
-        for (Field f : CubicForms.class.getDeclaredFields()) {
-            if (!Modifier.isPrivate(f.getModifiers())) {
-                fields.add(f.getType() + " " + f.getName());
-                if (f.getModifiers() != (Modifier.PUBLIC | Modifier.STATIC | Modifier.FINAL)) {
-                    fault("no public constant: " + f);
-                }
-            }
-        }
-        same("constants", fields, FIELDS);
-        Constructor<?>[] constructors = CubicForms.class.getDeclaredConstructors();
-        if (constructors.length != 1 || constructors[0].getParameterCount() != 0 || constructors[0].getModifiers() != Modifier.PUBLIC) {
-            fault("constructors: " + Arrays.toString(constructors));
         }
     }
 
@@ -97,37 +109,23 @@ public final class FaceTest {
     }
 
     private static void checkClasses() {
-        if (CubicForms.class.getModifiers() != (Modifier.PUBLIC | Modifier.FINAL)) {
-            fault("the class is not public and final");
-        }
-        if (allClasses().length > 12) {
-            fault("more than twelve classes");
-        }
+        Check.holds("at most twelve classes", allClasses().length <= 12);
         for (Class<?> c : allClasses()) {
-            if (c != CubicForms.class && !Modifier.isStatic(c.getModifiers())) {
-                fault("not static: " + c);
+            Check.holds("a static class inside: " + c, c == CubicForms.class || Modifier.isStatic(c.getModifiers()));
+            for (Field field : c.getDeclaredFields()) {
+                Check.holds("a static field is final: " + field,
+                        !Modifier.isStatic(field.getModifiers()) || Modifier.isFinal(field.getModifiers()));
             }
-            for (Field f : c.getDeclaredFields()) {
-                if (Modifier.isStatic(f.getModifiers()) && !Modifier.isFinal(f.getModifiers())) {
-                    fault("static and not final: " + f);
-                }
-            }
-            for (Method m : c.getDeclaredMethods()) {
-                if (m.getParameterCount() > 7) {
-                    fault("more than seven parameters: " + m);
-                }
+            for (Method method : c.getDeclaredMethods()) {
+                Check.holds("at most seven parameters: " + method, method.getParameterCount() <= 7);
             }
         }
     }
 
-    private static void checkSource() throws IOException {
-        String source = Files.readString(Path.of("src/main/java/CubicForms.java"));
+    private static void checkWords(String source) {
         String code = source.replaceAll("(?s)/\\*.*?\\*/", "").replaceAll("//[^\n]*", "");
         for (String banned : BANNED) {
-            Matcher m = Pattern.compile(banned).matcher(code);
-            if (m.find()) {
-                fault("LANGUAGE.md leaves no room for: " + m.group());
-            }
+            Check.holds("the class without " + banned, !Pattern.compile(banned).matcher(code).find());
         }
     }
 }

@@ -47,11 +47,6 @@ final class Sentences {
         quoted = new boolean[text.length()];
     }
 
-    /** For a section of which only some sentences are quoted here. */
-    void leaveRest() {
-        Arrays.fill(quoted, true);
-    }
-
     void says(String sentence, Runnable checks) {
         Check.under(title + ", \"" + sentence + "\"");
         int at = text.indexOf(sentence);
