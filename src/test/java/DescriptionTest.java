@@ -137,7 +137,8 @@ public final class DescriptionTest implements Codes {
             // A term at a time, and then all of them.
             Calls.with(0, 1, 1, 0, 1, 0, 1, 0, 0, 1, 0, 1, 1, 0, 0, 1, 1, 1, 1, 1).tells(1, "discriminant", 0).tells(-4, "discriminant", 1)
                     .tells(-4, "discriminant", 2).tells(-27, "discriminant", 3).tells(1 - 4 - 4 - 27 + 18, "discriminant", 4);
-            Cubics.eachRow(3, f -> Calls.with(f).does(Cubics.discriminant(f), "discriminant", 0).does(Cubics.discriminant(f), "traceDeterminant", 0));
+            Cubics.eachRow(3, f -> Calls.with(f).does(Cubics.discriminant(f), "discriminant", 0)
+                    .does(Cubics.discriminant(f), "traceDeterminant", 0));
         });
         doc.says("The Hessian of f is (P, Q, R) with P = b^2 - 3 a c, Q = b c - 9 a d, R = c^2 - 3 b d.",
                 () -> Cubics.eachRow(2, f -> Calls.with(f).does(f[1] * f[1] - 3 * f[0] * f[2], "hessian", 0, 0)

@@ -41,7 +41,8 @@ public final class FaceTest {
         for (String line : lines) {
             doc.says(line, () -> {
                 // The names of the parameters stand in the source alone.
-                Check.holds("the line in the source", source.contains("    " + (CONSTANT.matcher(line).matches() ? line : line.replace(";", " {"))));
+                String written = CONSTANT.matcher(line).matches() ? line : line.replace(";", " {");
+                Check.holds("the line in the source", source.contains("\n    " + written + "\n"));
                 checkMember(line);
             });
         }
